@@ -944,7 +944,6 @@ public final class WingTrams {
                     next = endOfNumber(text, i, length);
                     add(NUMBER, i, numberAt(text, i, next));
                 } else {
-                    next = i + 1;
                     add(SIGNS.indexOf((char) sign) >= 0 ? sign : NO_TOKEN, i, 0);
                 }
             }
@@ -1731,14 +1730,11 @@ public final class WingTrams {
             return false;
         }
 
-        /** The fewest owls, or fares, by which a rider is home by dawn. */
+        /** The fewest owls, or fares, by which a rider is home by dawn; a row of roofs for each sum. */
         int fewest(int rider, boolean fares) {
             soonest.fill(NEVER);
             soonest.put(city.from.at(rider), city.since.at(rider));
             for (int spent = 0; spent <= MOST_SPENT; spent++) {
-                for (int roof = 0; roof < city.roofs && spent > 0; roof++) {
-                    soonest.put(spent * ROOFS + roof, soonest.at((spent - 1) * ROOFS + roof));
-                }
                 for (int owl = 0; owl < city.owls; owl++) {
                     int price = fares ? city.kind.at(owl) + 1 : 1;
                     if (price <= spent) {

@@ -14,7 +14,9 @@ public final class ActsTest {
         starting();
         undoing();
         fortyActs();
+        mixedActs();
         images();
+        imagesOfActs();
         Check.end();
     }
 
@@ -43,16 +45,19 @@ public final class ActsTest {
     private static void moons() {
         WingTrams x = Check.told(CITY);
         Check.same("as it was", 0, x.moon(7));
-        Check.same("as it was", 7, x.moon(4));
+        Check.same("as it was", 7, x.moon(0));
+        Check.same("as it was", 0, x.moon(4));
         Check.same("too great", -1, x.moon(8));
         Check.same("too small", -1, x.moon(-1));
         Check.same("moon", 4, x.count(7));
         Check.same("refused", 2, x.count(15));
         Check.same("barn owls fly faster", 26, x.stop(1, 1, 1));
         Check.same("the same again is an act, too", 4, x.moon(4));
-        Check.same("acts", 3, x.count(11));
-        Check.same("undo", 2, x.undo());
+        Check.same("acts", 4, x.count(11));
+        Check.same("undo", 3, x.undo());
         Check.same("still", 4, x.count(7));
+        Check.same("undo", 2, x.undo());
+        Check.same("back", 0, x.count(7));
         Check.same("undo", 1, x.undo());
         Check.same("back", 7, x.count(7));
     }
@@ -167,6 +172,52 @@ public final class ActsTest {
         }
         Check.same("none", -1, x.undo());
         Check.same("the first ones stay", 105, x.owl(0, 1));
+    }
+
+    /** Acts of all kinds, of which the first ones are dropped; roofs and owls take turns. */
+    private static void mixedActs() {
+        WingTrams x = Check.told(CITY);
+        int[] grains = new int[70];
+        int[] minutes = new int[70];
+        for (int i = 0; i < 70; i++) {
+            grains[i] = 100 * x.roof(0, 0) + x.roof(1, 0);
+            minutes[i] = 1000 * x.owl(0, 1) + x.owl(1, 1);
+            if (i % 3 == 0) {
+                x.grain(i % 2, i % 10);
+            } else if (i % 3 == 1) {
+                x.start(i % 2, i);
+            } else {
+                x.moon(i % 8);
+            }
+        }
+        for (int i = 69; i >= 30; i--) {
+            Check.same("left", i - 30, x.undo());
+            Check.same("grain ahead of " + i, grains[i], 100 * x.roof(0, 0) + x.roof(1, 0));
+            Check.same("minutes ahead of " + i, minutes[i], 1000 * x.owl(0, 1) + x.owl(1, 1));
+        }
+        Check.same("none", -1, x.undo());
+    }
+
+    /** The acts of an image are its own: others in their places don't touch them. */
+    private static void imagesOfActs() {
+        WingTrams x = Check.told(CITY);
+        x.grain(1, 3);
+        x.start(1, 200);
+        x.see(1, 210, -1);
+        x.image();
+        x.undo();
+        x.undo();
+        x.forget();
+        x.moon(5);
+        x.obey(1);
+        x.see(0, 0, 0);
+        x.restore();
+        Check.same("seen", 16, x.fits() & 16);
+        Check.same("acts", 1, x.undo());
+        Check.same("its minute", 20, x.owl(1, 1));
+        Check.same("acts", 0, x.undo());
+        Check.same("its grain", 9, x.roof(1, 0));
+        Check.same("moon", 0, x.count(7));
     }
 
     private static void images() {

@@ -27,6 +27,8 @@ public final class NightsTest {
         Check.same("the first of all", 11, new WingTrams().bats(1));
         // 1 1, 2 1, and the owls' 2 with whatever the bats ask above it.
         Check.same("one who has two", 10, Check.told(riders + "2;").bats(0));
+        // The owls ask 2, or 9 of the one who has it: more, if the bats ask 9, too.
+        Check.same("one who has nine", 3, Check.told(riders + "9;").bats(0));
         Check.isThrown("what 2", NoSuchElementException.class, () -> x.bats(2));
         Check.isThrown("what -1", NoSuchElementException.class, () -> x.bats(-1));
     }
@@ -94,6 +96,10 @@ public final class NightsTest {
         WingTrams z = Check.told(city.replace("90", "371") + "tawny 300 0 1;rider 0 1 0 0;");
         Check.same("above 300", 59, z.late(0));
         Check.same("its minute stays", 300, z.owl(0, 1));
+        for (int dawn = 312; dawn <= 314; dawn++) {
+            WingTrams soon = Check.told(city.replace("90", "" + dawn) + "tawny 300 0 1;rider 0 1 0 0;");
+            Check.same("hardly later", dawn - 312, soon.late(0));
+        }
         // Not home if it starts 1 to 5 minutes later, home again if the hour is another one.
         WingTrams v = Check.told("roof 0;roof 0;flight 0 1 10;hunts 30*(hour=0);dawn 94;tawny 54 0 1;rider 0 1 0 0;");
         Check.same("the greatest, not the first", 30, v.late(0));

@@ -46,6 +46,15 @@ public final class PlansTest {
         Check.isThrown("roof -1", NoSuchElementException.class, () -> x.more(-1));
         x.grain(0, 1);
         lured(x, 1, 38, 0, 0, 0, 0);
+        WingTrams y = Check.told(LURE.replace("0 0 1 2", "0 2 1 0").replace("rider 0 2", "rider 2 0"));
+        lured(y, 1, 38, 1, 0, 0, 1);
+        lured(y, 1, 36, 2, 0, 0, 2);
+        lured(y, 1, 34, 3, 0, 0, 3);
+        y.grain(2, 7);
+        lured(y, 1, 26, 2, 0, 2, 0);
+        WingTrams one = Check.told("roof 0;rider 0 0 9 0;");
+        lured(one, 1, 9, 0, 0);
+        lured(one, 1, 8, -1, 0);
         Check.same("of an empty city", 0, new WingTrams().lure(0, 0));
         Check.isThrown("of an empty city", IllegalArgumentException.class, () -> new WingTrams().lure(1, 0));
     }
@@ -135,6 +144,7 @@ public final class PlansTest {
     private static void strapsOnTheWay() {
         String city = "roof 0;roof 0;roof 0;flight 0 1 10;flight 1 2 10;hunts 2;";
         Check.same("one off, one on", 2, Check.told(city + "tawny 0 0 1 2;rider 0 1 0 0;rider 1 2 0 0;").straps(1));
+        Check.same("one on, one off", 2, Check.told(city + "tawny 0 0 1 2;rider 1 2 0 0;rider 0 1 0 0;").straps(1));
         Check.same("all along", 1, Check.told(city + "tawny 0 0 1 2;rider 0 2 0 0;rider 1 2 0 0;rider 0 1 0 0;").straps(1));
         // The first takes the sooner owl, the least of like ones; the second has none left for roof 2.
         Check.same("the soonest", 2, Check.told(city + "tawny 5 0 1;tawny 0 0 1 2;rider 0 1 0 0;rider 1 2 0 0;"
@@ -173,6 +183,10 @@ public final class PlansTest {
         WingTrams y = Check.told(city + "tawny 0 0;tawny 0 0;tawny 25 0 1;rider 0 1 0 0;hunts 1+(mice=0)*29;");
         Check.same("worth less than none", -1, y.worth(0));
         Check.same("nothing is vital", 0, y.vital());
+        WingTrams z = Check.told(city + "tawny 0 0 1;tawny 0 0 1 2;rider 0 1 0 0;rider 0 2 0 0;rider 0 0 0 0;");
+        Check.same("one rider is enough", 2, z.vital());
+        z.nest(1, true);
+        Check.same("the first one", 1, z.vital());
         Check.same("of no owls", 0, new WingTrams().vital());
     }
 }

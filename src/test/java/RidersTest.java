@@ -9,6 +9,7 @@ public final class RidersTest {
         + "rider 3 3 361 9;rider 1 2 13 0;rider 3 0 0 9;rider 2 2 360 0;";
 
     public static void main(String[] args) {
+        neverAtOnce();
         allRiders();
         dawns();
         changingOnTheWay();
@@ -17,6 +18,10 @@ public final class RidersTest {
         reaching();
         wrongRiders();
         Check.end();
+    }
+
+    private static void neverAtOnce() {
+        Check.same("never", 8 + 16 + 64, Check.told(CITY + PEOPLE).never());
     }
 
     private static void allRiders() {
@@ -88,6 +93,14 @@ public final class RidersTest {
         Check.same("the sooner one", 1, Check.told(city + "white 1 0 1;tawny 0 0 2 1;").last(0));
         Check.same("one that he can't be on isn't", 1,
             Check.told(city + "tawny 6 2 1;white 0 0 1;").last(0));
+        Check.same("on as it leaves", 0, Check.told(city.replace("rider 0 1 0 0", "rider 0 1 2 0")
+            + "tawny 0 0 1;").last(0));
+        Check.same("a change as it leaves", 1, Check.told(city + "tawny 0 0 2;tawny 4 2 1;").last(0));
+        WingTrams white = Check.told("roof 0;".repeat(6) + "flight 0 1 1;flight 1 2 1;flight 2 3 1;flight 3 4 1;"
+            + "flight 4 5 1;hunts 0;white 0 0 1;white 1 1 2;white 2 2 3;white 3 3 4;white 4 4 5;rider 0 5 0 0;");
+        Check.same("five white owls", 15, white.cheapest(0));
+        Check.same("four changes", 4, white.changes(0));
+        Check.same("the last of five", 4, white.last(0));
         Check.same("cheaper than sooner", 1, Check.told(city + "white 0 0 1;tawny 5 0 1;").cheapest(0));
     }
 

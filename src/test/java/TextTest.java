@@ -7,6 +7,7 @@ public final class TextTest {
         newObject();
         tape();
         cityAnew();
+        smallerCity();
         tokens();
         lines();
         ways();
@@ -84,6 +85,25 @@ public final class TextTest {
         Check.same("no rule", -1, x.count(5));
     }
 
+    /** Nothing of a city that had more of all is left in the next one. */
+    private static void smallerCity() {
+        WingTrams x = Check.told(LINKED
+            + "tawny 0 0 1 0 1;tawny 0 0 1;rider 0 1 0 9;rider 0 1 0 9;hunts 5;hunts 6;dawn 60;");
+        Check.same("a smaller city", 0, Check.tell(x, "roof 0;roof 0;tawny 0 0;rider 0 1 0 0;hunts 7;"));
+        Check.same("no flight", -1, x.flight(0, 1));
+        Check.same("its rule", 7, x.stop(0, 0, 2));
+        Check.same("its dawn", 360, x.count(6));
+        Check.same("nobody has straps", 0, x.straps(1));
+        Check.same("nobody gets home", 1, x.never());
+        Check.same("a roof by oneself", 1, x.reach(0, 500));
+        Check.isThrown("no owl 1", java.util.NoSuchElementException.class, () -> x.stop(1, 0, 0));
+        Check.isThrown("no stop 1", java.util.NoSuchElementException.class, () -> x.stop(0, 1, 0));
+        Check.isThrown("no rider 1", java.util.NoSuchElementException.class, () -> x.rider(1, 0));
+        Check.same("no rule 1", false, x.obey(1));
+        Check.same("two rules", 17, x.fits());
+        Check.same("who has no fur", 81, x.bats(0));
+    }
+
     private static void tokens() {
         Check.same("no blanks", 2, Check.told("roof1;roof2;flight 0 1 5;").count(0));
         Check.same("line feeds", 2, Check.told("\n roof\n1\n;\n\nroof 2 ; ").count(0));
@@ -102,6 +122,12 @@ public final class TextTest {
         Check.fault("roof 1 2;", 1, 7);
         Check.fault("roof 1 ; 7", 1, 9);
         Check.fault("roof x;", 1, 5);
+        Check.fault("hunts zebra;", 3, 6);
+        Check.fault("hunts a;", 3, 6);
+        Check.fault("hunts {;", 1, 6);
+        Check.fault("hunts `;", 1, 6);
+        Check.fault("hunts :;", 1, 6);
+        Check.same("all 700 bytes", 1, Check.told("hunts" + "1+".repeat(346) + "1;\n").count(4));
         Check.fault(";", 1, 0);
         Check.fault("mice;", 1, 0);
         Check.fault("or;", 1, 0);
@@ -113,6 +139,8 @@ public final class TextTest {
         Check.fault("flight 0 1 5;", 3, 7);
         Check.fault(TWO + "flight 0 2 5;", 3, 23);
         Check.fault(TWO + "flight 0 99 5;", 3, 23);
+        Check.fault(TWO + "flight 0 9999 5;", 3, 23);
+        Check.fault(TWO + "flight 9999 1 5;", 3, 21);
         Check.fault(TWO + "flight 00000 1 5;", 2, 21);
         Check.fault(TWO + "flight 0 00001 5;", 2, 23);
         Check.fault(TWO + "flight 0 0 5;", 4, 23);
@@ -217,6 +245,16 @@ public final class TextTest {
         Check.fault("hunts 1);", 1, 7);
         Check.fault("hunts ();", 1, 7);
         Check.fault("hunts 1 or;", 1, 10);
+        // The first fault counts, whatever comes behind it.
+        Check.fault("hunts 1 and ;roof 10;", 1, 12);
+        Check.fault("hunts 1 or ;roof 10;", 1, 11);
+        Check.fault("hunts 1 + ;roof 10;", 1, 10);
+        Check.fault("hunts 1 * ;roof 10;", 1, 10);
+        Check.fault("hunts 1 < ;roof 10;", 1, 10);
+        Check.fault("hunts not ;roof 10;", 1, 10);
+        Check.fault("hunts (1;roof 10;", 1, 8);
+        Check.fault("roof 10;owl;", 2, 5);
+        Check.fault("tawny 301 7;dawn 1;", 2, 6);
         Check.fault("hunts 1 or or 1;", 3, 11);
         Check.fault("hunts not;", 1, 9);
         Check.fault("hunts 1 = ;", 1, 10);

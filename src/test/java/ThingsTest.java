@@ -241,6 +241,8 @@ public final class ThingsTest {
             Check.told(two + "tawny 0 0 1;tawny 0 0 1;tawny 0 0 1;").owl(0, 5));
         Check.same("to dawn, that too", 1, Check.told(two + "tawny 0 0;tawny 60 0;").owl(1, 5));
         Check.same("behind dawn", 0, Check.told(two + "tawny 0 0;tawny 61 0;").owl(1, 5));
+        Check.same("to the latest dawn", 300, Check.told("roof 0;dawn 599;tawny 0 0;tawny 300 0;").owl(1, 5));
+        Check.same("to the latest dawn", 301, Check.told("roof 0;dawn 600;tawny 0 0;tawny 300 0;").owl(0, 5));
         WingTrams y = Check.told(two + "tawny 0 0 1;tawny 5 0 1;");
         y.nest(1, true);
         Check.same("alone", 0, y.owl(0, 5));
