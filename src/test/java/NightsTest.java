@@ -115,6 +115,7 @@ public final class NightsTest {
         Check.same("whichever is in force", 1, x.best());
         Check.same("in force still", 2, x.count(5));
         Check.same("nobody gets home", -1, Check.told(city.replace("70", "60") + "hunts 1;").best());
+        Check.same("no rule behind the last", -1, Check.told(city.replace("70", "61") + "hunts 30*(stop=0);").best());
         Check.same("of none", -1, new WingTrams().best());
         Check.same("most of all", 1, Check.told("roof 0;roof 0;roof 0;flight 0 1 10;tawny 50 0 1;"
             + "tawny 60 0 1;dawn 70;rider 0 1 0 0;rider 0 1 53 0;hunts 30;hunts 0;").best());
@@ -131,6 +132,7 @@ public final class NightsTest {
         Check.same("of like ones the least", 0, x.bright());
         Check.same("no matter", 0, Check.told(city + "tawny 0 0 1;").bright());
         Check.same("of none", 0, new WingTrams().bright());
+        Check.same("no moon behind 7", 0, Check.told(city.replace("hunts 0", "hunts 30*(moon<8)") + "tawny 40 0 1;").bright());
         Check.same("the last", 7, Check.told(city.replace("hunts 0", "hunts 30*(moon<7)") + "tawny 40 0 1;").bright());
     }
 

@@ -112,6 +112,9 @@ public final class PlansTest {
         x.wet(true);
         x.moon(7);
         beamed(x, 1, 25, 4, 1);
+        String four = "roof 0;roof 0;roof 0;roof 0;";
+        beamed(Check.told(four + "flight 1 0 10;flight 0 2 10;flight 1 3 20;rider 0 2 0 0;rider 0 3 0 0;"), 1, 20, 2, 2);
+        beamed(Check.told(four + "flight 2 1 10;flight 1 0 10;flight 2 3 20;rider 0 0 0 0;rider 0 3 0 0;"), 1, 20, 2, 4);
     }
 
     private static void beamed(WingTrams x, int many, int minutes, int riders, int set) {

@@ -79,6 +79,10 @@ public final class RidersTest {
         WingTrams x = Check.told(city + "barn 10 0 1;");
         Check.same("a change", 1, x.changes(0));
         Check.same("tawny and barn", 3, x.cheapest(0));
+        WingTrams y = Check.told("roof 0;roof 0;roof 0;flight 0 1 10;flight 1 2 10;hunts 2;rider 0 2 0 0;"
+            + "tawny 0 0 1;tawny 5 0 1;tawny 12 1 2;");
+        Check.same("by the sooner of two", 1, y.changes(0));
+        Check.same("by the sooner of two", 2, y.cheapest(0));
         // On at the last roof of a way one can't get.
         Check.same("it goes no further", -1, Check.told("roof 0;roof 0;flight 0 1 5;tawny 0 0 1;"
             + "rider 1 0 0 0;").home(0));
