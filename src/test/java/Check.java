@@ -4,16 +4,43 @@ import java.nio.charset.StandardCharsets;
 final class Check {
     private static int passed;
     private static int failed;
+    private static String about = "";
+    private static boolean again;
 
     private Check() {
+    }
+
+    /** What the checks that follow are about: it stands ahead of what they print. */
+    static void about(String what) {
+        about = what;
+    }
+
+    /** Whether cities are told to objects that have had another one, with most of all, ahead. */
+    static void useAgain(boolean objects) {
+        again = objects;
+    }
+
+    /** One test: that it checks something, and that nothing is thrown out of it. */
+    static void tests(Runnable test) {
+        int before = passed + failed;
+        try {
+            test.run();
+        } catch (RuntimeException | StackOverflowError e) {
+            fail("thrown was " + e);
+        }
+        same("checks something", true, passed + failed > before);
+    }
+
+    private static void fail(String what) {
+        failed++;
+        System.out.println(about + what);
     }
 
     static void same(String what, long due, long got) {
         if (due == got) {
             passed++;
         } else {
-            failed++;
-            System.out.println(what + ": due is " + due + ", answered " + got);
+            fail(what + ": due is " + due + ", answered " + got);
         }
     }
 
@@ -31,8 +58,7 @@ final class Check {
         if (due == got) {
             passed++;
         } else {
-            failed++;
-            System.out.println(what + ": due is " + due + ", thrown was " + got);
+            fail(what + ": due is " + due + ", thrown was " + got);
         }
     }
 
@@ -60,9 +86,9 @@ final class Check {
         return x.city(text.length());
     }
 
-    /** A new object with a city that has no fault. */
+    /** An object with a city that has no fault. */
     static WingTrams told(String text) {
-        WingTrams x = new WingTrams();
+        WingTrams x = again ? Most.used() : new WingTrams();
         same("city of " + text, 0, tell(x, text));
         return x;
     }
@@ -79,6 +105,16 @@ final class Check {
         same("tape behind " + text, 0, x.count(13));
         same("status behind " + text, 1, x.count(14));
         same("dawn behind " + text, 77, x.count(6));
+        // Whatever stands behind the first fault, if there is room for it and it isn't the end.
+        if (place < text.length() && text.length() < 700) {
+            same("city of " + text + "@", fault, tell(x, text + "@"));
+            same("fault of " + text + "@", place, x.fault());
+        }
+    }
+
+    /** That a rule gives so many minutes to a tawny owl that comes at 0 to a roof without grain. */
+    static void hunts(String rule, int minutes) {
+        same(rule, minutes, told("roof 0;tawny 0 0;hunts " + rule + ";").stop(0, 0, 2));
     }
 
     static void end() {

@@ -170,38 +170,33 @@ public final class ThingsTest {
     }
 
     private static void rules() {
-        hunted("7", 7);
-        hunted("30", 30);
-        hunted("31", 30);
-        hunted("0-1", 0);
-        hunted("9-2-3", 4);
-        hunted("2+3*4", 14);
-        hunted("(2+3)*4", 20);
-        hunted("20/6*2", 6);
-        hunted("(0-7)/2+10", 7);
-        hunted("7/0+1", 1);
-        hunted("9999*9999*9999*0+5", 5);
-        hunted("9999*9999*9999<0", 1);
-        hunted("9999*9999*9999/(0-9999*9999)", 10);
-        hunted("(1<2)+(2<2)+(3<2)", 1);
-        hunted("(1=2)+(2=2)", 1);
-        hunted("not 0+5", 0);
-        hunted("not 0", 1);
-        hunted("not not 5", 1);
-        hunted("not 1 < 1", 1);
-        hunted("5 and 3", 1);
-        hunted("5 and 0", 0);
-        hunted("0 and 0 or 7", 1);
-        hunted("1 or 1 and 0", 1);
-        hunted("0 or 0", 0);
-        hunted("1+1 or 0", 1);
-        hunted("not 0 and 4", 1);
+        Check.hunts("7", 7);
+        Check.hunts("30", 30);
+        Check.hunts("31", 30);
+        Check.hunts("0-1", 0);
+        Check.hunts("9-2-3", 4);
+        Check.hunts("2+3*4", 14);
+        Check.hunts("(2+3)*4", 20);
+        Check.hunts("20/6*2", 6);
+        Check.hunts("(0-7)/2+10", 7);
+        Check.hunts("7/0+1", 1);
+        Check.hunts("9999*9999*9999*0+5", 5);
+        Check.hunts("9999*9999*9999<0", 1);
+        Check.hunts("9999*9999*9999/(0-9999*9999)", 10);
+        Check.hunts("(1<2)+(2<2)+(3<2)", 1);
+        Check.hunts("(1=2)+(2=2)", 1);
+        Check.hunts("not 0+5", 0);
+        Check.hunts("not 0", 1);
+        Check.hunts("not not 5", 1);
+        Check.hunts("not 1 < 1", 1);
+        Check.hunts("5 and 3", 1);
+        Check.hunts("5 and 0", 0);
+        Check.hunts("0 and 0 or 7", 1);
+        Check.hunts("1 or 1 and 0", 1);
+        Check.hunts("0 or 0", 0);
+        Check.hunts("1+1 or 0", 1);
+        Check.hunts("not 0 and 4", 1);
         values();
-    }
-
-    private static void hunted(String rule, int minutes) {
-        WingTrams x = Check.told("roof 0;tawny 0 0;hunts " + rule + ";");
-        Check.same(rule, minutes, x.stop(0, 0, 2));
     }
 
     private static void values() {

@@ -1,0 +1,11 @@
+/** For each sentence of the document that names a boundary case the test that is its own. */
+public final class EdgesTest {
+    public static void main(String[] args) {
+        TextEdges.all();
+        NightEdges.all();
+        ActEdges.all();
+        RideEdges.all();
+        SnowEdges.all();
+        Edges.end();
+    }
+}
