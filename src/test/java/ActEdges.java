@@ -2,7 +2,8 @@ import java.util.Arrays;
 
 /** Terms 2 of acts, promises 12 to 18, 41 and 42: acts, undoing them, the image. */
 final class ActEdges {
-    private static final String CITY = "roof 1;roof 9;flight 0 1 10;tawny 7 0 1;barn 20 1 0;rider 0 1 0 0;hunts 1;hunts 2;";
+    private static final String CITY = "roof 1;roof 9;flight 0 1 10;tawny 7 0 1;barn 20 1 0;rider 0 1 0 0;hunts 1;"
+        + "hunts 2;";
     private static final int MOST = Integer.MAX_VALUE;
     private static final int LEAST = Integer.MIN_VALUE;
 

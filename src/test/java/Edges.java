@@ -15,7 +15,8 @@ final class Edges {
 
     /** A sentence of the terms, and the promise whose call shows whether it holds. */
     static void terms(int number, int promise, String sentence, Runnable test) {
-        edge("Terms " + number, "Promise " + promise + ", by Terms " + number + ", \"" + sentence + "\"", sentence, test);
+        edge("Terms " + number, "Promise " + promise + ", by Terms " + number + ", \"" + sentence + "\"", sentence,
+            test);
     }
 
     static void promise(int number, String sentence, Runnable test) {

@@ -35,7 +35,7 @@ final class Most {
         for (int roof = 2; roof < 10; roof++) {
             text.append("flight 0 ").append(roof).append(" 1;");
         }
-        text.append("flight 1 3 1;").append("rider 0 9 0 9;".repeat(4)).append("rider 9 9 0 9;".repeat(4));
+        text.append("flight 1 3 1;").append("rider 9 9 0 9;rider 0 9 0 9;".repeat(4));
         text.append("hunts 30;hunts kind;hunts mice+9;dawn 600;");
         Check.tell(x, text.toString());
         askMuch(x);

@@ -67,8 +67,10 @@ final class NightEdges {
         Edges.terms(2, 8, "catches a MOUSE, if it hunts 1 minute or more and there are any (one less is there then)",
             NightEdges::catching);
         Edges.terms(2, 9, "twice as many, if it is wet", NightEdges::wetFlights);
-        Edges.terms(2, 9, "of a barn owl half as many, cut up, if the MOON is 4 or more, ahead of that", NightEdges::barnOwls);
-        Edges.terms(2, 11, "It stays on the last ROOF of its WAY from its COMING on (hunting there, too)", NightEdges::lastRoofs);
+        Edges.terms(2, 9, "of a barn owl half as many, cut up, if the MOON is 4 or more, ahead of that",
+            NightEdges::barnOwls);
+        Edges.terms(2, 11, "It stays on the last ROOF of its WAY from its COMING on (hunting there, too)",
+            NightEdges::lastRoofs);
         Edges.terms(2, 8, "What COMES in one minute COMES in the order of OWLS", NightEdges::oneMinute);
         Edges.terms(2, 11, "(An OWL that nests isn't there at all.)", NightEdges::nesting);
     }
@@ -212,7 +214,8 @@ final class NightEdges {
     private static void grainsAndKinds() {
         String[] kinds = {"tawny", "barn", "white"};
         for (int kind = 0; kind < 3; kind++) {
-            WingTrams x = Check.told("roof 9;roof 0;" + kinds[kind] + " 0 0;" + kinds[kind] + " 0 1;hunts grain+kind*10;");
+            WingTrams x = Check.told("roof 9;roof 0;" + kinds[kind] + " 0 0;" + kinds[kind] + " 0 1;"
+                + "hunts grain+kind*10;");
             Check.same("most grain", 9 + 10 * kind, x.stop(0, 0, 2));
             Check.same("least grain", 10 * kind, x.stop(1, 0, 2));
             x.grain(0, 0);

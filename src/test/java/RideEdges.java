@@ -62,7 +62,8 @@ final class RideEdges {
         String change = LINE.replace("hunts 2", "hunts 5") + "rider 0 2 0 0;tawny 20 1 2;";
         homes("by an owl that comes as it leaves", change + "white 10 0 1;", 35);
         homes("by an owl that comes a minute later", change + "white 11 0 1;", -1);
-        homes("it leaves as it comes", LINE.replace("hunts 2", "hunts 0") + "tawny 9 0 1;rider 0 1 9 0;rider 0 1 10 0;", 19, -1);
+        homes("it leaves as it comes", LINE.replace("hunts 2", "hunts 0") + "tawny 9 0 1;rider 0 1 9 0;"
+            + "rider 0 1 10 0;", 19, -1);
     }
 
     private static void notAtTheLast() {
@@ -73,7 +74,8 @@ final class RideEdges {
     private static void gettingOff() {
         homes("as it comes", ALONG + "rider 0 1 0 0;rider 0 2 0 0;rider 1 2 0 0;", 12, 24, 24);
         homes("not at one ahead", ALONG + "rider 1 0 0 0;rider 2 0 0 0;rider 2 1 0 0;", -1, -1, -1);
-        homes("at the next time it comes", LINE + "tawny 0 0 1 0 1;rider 0 1 0 0;rider 0 1 3 0;rider 0 1 26 0;rider 0 1 27 0;",
+        homes("at the next time it comes", LINE + "tawny 0 0 1 0 1;rider 0 1 0 0;rider 0 1 3 0;rider 0 1 26 0;"
+            + "rider 0 1 27 0;",
             12, 36, 36, -1);
     }
 
@@ -162,6 +164,7 @@ final class RideEdges {
 
     private static void neverBits() {
         Check.same("nobody is there", 0, Check.told(ALONG).never());
+        Check.same("one is home", 0, Check.told(ALONG + "rider 0 2 0 0;").never());
         Check.same("all of eight", 255, Check.told(ALONG + "rider 2 0 0 0;".repeat(8)).never());
         Check.same("none of eight", 0, Check.told(ALONG + "rider 0 2 0 0;".repeat(8)).never());
         Check.same("the last one", 2, Check.told(ALONG + "rider 0 2 2 0;rider 0 2 3 0;").never());
@@ -174,7 +177,8 @@ final class RideEdges {
         Edges.terms(3, 21, "CHEAPEST: the fewest FUR by which one can be HOME by DAWN", RideEdges::cheapest);
         Edges.terms(3, 21, "(0, if he is there already; whatever he has)", RideEdges::whateverHeHas);
         Edges.promise(21, "CHEAPEST; NONE: none", RideEdges::noFare);
-        Edges.terms(3, 22, "the least one on which he can come HOME in that minute which is the soonest", RideEdges::lastOwls);
+        Edges.terms(3, 22, "the least one on which he can come HOME in that minute which is the soonest",
+            RideEdges::lastOwls);
         Edges.terms(3, 22, "none (also if he is there already)", RideEdges::noLastOwl);
         Edges.promise(22, "THE LAST OWL; NONE: none", RideEdges::lastOrNone);
     }
@@ -196,11 +200,13 @@ final class RideEdges {
         Check.same("two others", 5, Check.told(city + "tawny 9 0 2;").cheapest(0));
         Check.same("by the sooner of two", 2, Check.told(ONE_IN_TIME).cheapest(0));
         Check.same("by the first time of two", 2, Check.told(TWICE_IN_TIME).cheapest(0));
-        Check.same("two for less than one", 2, Check.told(LINE + "white 0 0 1 2;tawny 0 0 1;tawny 12 1 2;rider 0 2 0 0;").cheapest(0));
+        Check.same("two for less than one", 2, Check.told(LINE + "white 0 0 1 2;tawny 0 0 1;tawny 12 1 2;"
+            + "rider 0 2 0 0;").cheapest(0));
     }
 
     private static void whateverHeHas() {
-        WingTrams x = Check.told(LINE + "dawn 60;white 0 0 1 2;rider 1 1 60 0;rider 1 1 0 9;rider 0 2 0 0;rider 0 2 0 9;");
+        WingTrams x = Check.told(LINE + "dawn 60;white 0 0 1 2;rider 1 1 60 0;rider 1 1 0 9;rider 0 2 0 0;"
+            + "rider 0 2 0 9;");
         int[] due = {0, 0, 3, 3};
         for (int rider = 0; rider < 4; rider++) {
             Check.same("rider " + rider, due[rider], x.cheapest(rider));
@@ -224,6 +230,11 @@ final class RideEdges {
         Check.same("not one that he can't be on", 1, Check.told(city + "barn 12 1 2;white 0 0 2;").last(0));
         Check.same("one that leaves as he comes", 1, Check.told(city + "tawny 0 0 1;barn 12 1 2;white 0 0 2;").last(0));
         Check.same("the first of five", 0, Check.told(city + "tawny 0 0 1 2;".repeat(5)).last(0));
+        // The owl 0 comes to roof 1 at 36 in the city ahead alone, the owl 1 in both.
+        WingTrams x = Check.told(LINE + "flight 0 2 22;rider 0 1 0 0;tawny 0 0 2 1;tawny 24 0 1;");
+        Check.same("the least of like ones", 0, x.last(0));
+        Check.tell(x, LINE + "flight 0 2 22;rider 0 1 0 0;tawny 0 0 2;tawny 24 0 1;");
+        Check.same("no further than it goes", 1, x.last(0));
     }
 
     private static void noLastOwl() {
@@ -321,7 +332,8 @@ final class RideEdges {
         lured(y, 1, 38, 1, 0, 0, 1);
         lured(y, 1, 34, 3, 0, 0, 3);
         // The last roof takes one grain more, the one ahead of it two.
-        WingTrams z = Check.told(LURE.replace("0 0 1 2", "0 2 1 0").replace("rider 0 2", "rider 2 0").replace("10-", "30-"));
+        WingTrams z = Check.told(LURE.replace("0 0 1 2", "0 2 1 0").replace("rider 0 2", "rider 2 0").replace("10-",
+            "30-"));
         z.grain(2, 8);
         lured(z, 1, 58, 3, 0, 2, 1);
     }
@@ -394,7 +406,8 @@ final class RideEdges {
             RideEdges::soManyMinutes);
         Edges.terms(3, 26, "how many; the least as bits", RideEdges::leastBits);
         Edges.terms(3, 26, "none, if there are not so many ROOFS", RideEdges::notSoManyRoofs);
-        Edges.promise(26, "how many RIDERS (what 0; NONE: none), the set as bits (1; NONE: none)", RideEdges::beamsOrNone);
+        Edges.promise(26, "how many RIDERS (what 0; NONE: none), the set as bits (1; NONE: none)",
+            RideEdges::beamsOrNone);
         Edges.promise(26, "NoSuchElementException: another what", RideEdges::wrongBeams);
         Edges.promise(26, "IllegalArgumentException (behind that): how many, minutes", RideEdges::tooManyBeams);
     }
@@ -434,11 +447,13 @@ final class RideEdges {
         x.moon(7);
         beamed(x, 1, 119, 1, 1);
         // From roof 1 to roof 2 by roof 0.
-        WingTrams w = Check.told("roof 0;roof 0;roof 0;roof 0;flight 1 0 10;flight 0 2 10;flight 1 3 20;rider 0 2 0 0;rider 0 3 0 0;");
+        WingTrams w = Check.told("roof 0;roof 0;roof 0;roof 0;flight 1 0 10;flight 0 2 10;flight 1 3 20;"
+            + "rider 0 2 0 0;rider 0 3 0 0;");
         beamed(w, 1, 20, 2, 2);
         beamed(w, 1, 19, 1, 1);
         // Two flights of 20 are a shorter way than the one of 50.
-        WingTrams y = Check.told("roof 0;roof 0;roof 0;flight 0 1 20;flight 1 2 20;flight 0 2 50;rider 0 2 0 0;rider 0 0 0 0;");
+        WingTrams y = Check.told("roof 0;roof 0;roof 0;flight 0 1 20;flight 1 2 20;flight 0 2 50;rider 0 2 0 0;"
+            + "rider 0 0 0 0;");
         beamed(y, 1, 40, 2, 1);
         beamed(y, 1, 39, 2, 2);
         beamed(y, 1, 19, 1, 1);
@@ -493,7 +508,8 @@ final class RideEdges {
             RideEdges::riderByRider);
         Edges.terms(3, 27, "on at the last one ahead of that at which he can", RideEdges::onAtTheLast);
         Edges.terms(3, 27, "if less than so many are on it from each to the next of these", RideEdges::lessThanSoMany);
-        Edges.terms(3, 27, "that by which he is HOME soonest (of like ones the least OWL); none else", RideEdges::soonestOwl);
+        Edges.terms(3, 27, "that by which he is HOME soonest (of like ones the least OWL); none else",
+            RideEdges::soonestOwl);
         Edges.terms(3, 27, "(those who are there already, by DAWN, take none)", RideEdges::thereAlready);
         Edges.promise(27, "STRAPS: how many", RideEdges::howManyStrapped);
         Edges.promise(27, "IllegalArgumentException: not 1 to 8", RideEdges::wrongStraps);
@@ -527,11 +543,13 @@ final class RideEdges {
 
     /** So the first flight stays free for the second rider. */
     private static void onAtTheLast() {
-        Check.same("on at the second time", 2, Check.told(LINE + "tawny 0 0 1 0 1 2;rider 0 2 0 0;rider 0 1 0 0;").straps(1));
+        Check.same("on at the second time", 2, Check.told(LINE + "tawny 0 0 1 0 1 2;rider 0 2 0 0;"
+            + "rider 0 1 0 0;").straps(1));
         Check.same("in the minute it leaves", 1, Check.told(PAIR + "tawny 0 0 1;rider 0 1 2 0;").straps(1));
         Check.same("a minute later", 0, Check.told(PAIR + "tawny 0 0 1;rider 0 1 3 0;").straps(1));
         Check.same("not at its last one", 0, Check.told(PAIR + "tawny 0 0 1 0;rider 0 1 3 0;").straps(1));
-        Check.same("behind owls that go nowhere", 1, Check.told(PAIR + "tawny 0 1;tawny 0 1;tawny 0 0 1;rider 0 1 0 0;").straps(1));
+        Check.same("behind owls that go nowhere", 1, Check.told(PAIR + "tawny 0 1;tawny 0 1;tawny 0 0 1;"
+            + "rider 0 1 0 0;").straps(1));
     }
 
     private static void lessThanSoMany() {
@@ -545,7 +563,8 @@ final class RideEdges {
 
     private static void soonestOwl() {
         String riders = "rider 0 1 0 0;rider 0 2 0 0;";
-        Check.same("the sooner one is the long way", 1, Check.told(LINE + "tawny 5 0 1;tawny 0 0 1 2;" + riders).straps(1));
+        Check.same("the sooner one is the long way", 1, Check.told(LINE + "tawny 5 0 1;tawny 0 0 1 2;"
+            + riders).straps(1));
         Check.same("the later one is", 2, Check.told(LINE + "tawny 0 0 1;tawny 5 0 1 2;" + riders).straps(1));
         Check.same("the least of like ones is", 1, Check.told(LINE + "tawny 0 0 1 2;tawny 0 0 1;" + riders).straps(1));
         Check.same("the other of like ones is", 2, Check.told(LINE + "tawny 0 0 1;tawny 0 0 1 2;" + riders).straps(1));
@@ -577,7 +596,8 @@ final class RideEdges {
     }
 
     private static void worths() {
-        Edges.terms(3, 28, "how many RIDERS can be HOME now less how many can, did it nest (0, if it does)", RideEdges::worth);
+        Edges.terms(3, 28, "how many RIDERS can be HOME now less how many can, did it nest (0, if it does)",
+            RideEdges::worth);
         Edges.terms(3, 29, "VITAL: OWLS that are WORTH more than 0, as bits", RideEdges::moreThanNone);
         Edges.promise(28, "WORTH.", RideEdges::leastAndMostWorth);
         Edges.promise(29, "VITAL, as bits.", RideEdges::vitalBits);
@@ -636,7 +656,8 @@ final class RideEdges {
 
     private static void byThen() {
         WingTrams x = Check.told(ALONG + "rider 0 0 0 0;rider 0 0 3 0;rider 1 1 14 0;");
-        int[][] due = {{0, 1, 0, 0}, {11, 1, 1, 0}, {12, 3, 1, 0}, {14, 3, 1, 2}, {23, 3, 1, 2}, {24, 7, 1, 6}, {MOST, 7, 1, 6}};
+        int[][] due = {{0, 1, 0, 0}, {11, 1, 1, 0}, {12, 3, 1, 0}, {14, 3, 1, 2}, {23, 3, 1, 2}, {24, 7, 1, 6},
+            {MOST, 7, 1, 6}};
         for (int[] minute : due) {
             for (int rider = 0; rider < 3; rider++) {
                 Check.same("rider " + rider + " by " + minute[0], minute[rider + 1], x.reach(rider, minute[0]));
@@ -675,7 +696,8 @@ final class RideEdges {
 
     /** One of five owls is on roofs 0 and 1, the others on 2 and 3. */
     private static void onOneOwl(int which) {
-        StringBuilder text = new StringBuilder("roof 0;roof 0;roof 0;roof 0;flight 0 1 1;flight 2 3 1;hunts 0;rider 0 1 0 0;");
+        StringBuilder text = new StringBuilder("roof 0;roof 0;roof 0;roof 0;flight 0 1 1;flight 2 3 1;hunts 0;"
+            + "rider 0 1 0 0;");
         for (int owl = 0; owl < 5; owl++) {
             text.append(owl == which ? "tawny 0 0 1 0 1 0 1 0 1;" : "tawny 0 2 3 2 3 2 3 2 3;");
         }

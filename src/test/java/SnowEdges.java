@@ -7,7 +7,8 @@ final class SnowEdges {
     /** By its owl the rider is home 12 minutes behind its start. */
     private static final String RIDE = "roof 0;roof 0;flight 0 1 10;hunts 2;rider 0 1 0 0;";
     /** One rider is home in a dry night alone, the other one is there already. */
-    private static final String DRY = "roof 0;roof 0;flight 0 1 40;hunts 0;tawny 0 0 1;dawn 60;rider 0 1 0 0;rider 1 1 0 0;";
+    private static final String DRY = "roof 0;roof 0;flight 0 1 40;hunts 0;tawny 0 0 1;dawn 60;rider 0 1 0 0;"
+        + "rider 1 1 0 0;";
     /** Seeds, and how many of their first 1, 10, 59 and 60 nights are dry. */
     private static final int[][] SEEDS = {{5, 1, 5, 42, 43}, {0, 0, 7, 43, 44}, {-1, 1, 8, 43, 43}, {-5, 0, 4, 40, 40},
         {123456, 1, 6, 35, 36}, {MOST, 1, 8, 43, 43}, {LEAST, 0, 7, 43, 44}};
@@ -124,7 +125,8 @@ final class SnowEdges {
         Edges.terms(4, 32, "FITS: rules of HUNTS by which (in force, all else as it is) all SEEN is so, as bits (bit 4: none)",
             SnowEdges::bitsThatFit);
         Edges.promise(32, "FITS, as bits.", SnowEdges::fitsWithoutSeen);
-        Edges.terms(4, 33, "(twice how many less all of FITS, without sign, is least; of like ones the least)", SnowEdges::nearestToHalf);
+        Edges.terms(4, 33, "(twice how many less all of FITS, without sign, is least; of like ones the least)",
+            SnowEdges::nearestToHalf);
         Edges.terms(4, 33, "some OWL is in it", SnowEdges::someOwl);
         Edges.terms(4, 33, "none without ROOFS", SnowEdges::watchOfNone);
         Edges.promise(33, "WATCH; NONE: there are no ROOFS", SnowEdges::watchAnyMinute);
@@ -216,7 +218,8 @@ final class SnowEdges {
 
     private static void bats() {
         Edges.terms(4, 34, "they and the owls each ask a price of 1 to 9 FUR", SnowEdges::prices);
-        Edges.terms(4, 34, "each RIDER who has as much takes the cheaper of both (of like ones the owls; who hasn't as much takes none)",
+        Edges.terms(4, 34, "each RIDER who has as much takes the cheaper of both (of like ones the owls;"
+            + " who hasn't as much takes none)",
             SnowEdges::asMuch);
         Edges.terms(4, 34, "a price less 1 is gained for each", SnowEdges::lessOne);
         Edges.terms(4, 34, "A couple RESTS, if neither gains more by another price", SnowEdges::resting);
@@ -271,9 +274,12 @@ final class SnowEdges {
         Edges.terms(4, 35, "in the first one the MOON is one more (0 behind 7) than now", SnowEdges::firstNight);
         Edges.terms(4, 35, "in each next one it is one more again", SnowEdges::nextNights);
         Edges.terms(4, 35, "in each a DRAW of 4 tells whether it is wet (0)", SnowEdges::drawsOfFour);
-        Edges.terms(4, 35, "how many RIDERS can be HOME, together; the fewest in one; NIGHTS in which all can", SnowEdges::nightsOfAll);
-        Edges.terms(4, 35, "(an int that wraps); a DRAW of n is its bits 16 to 30 MOD n then", SnowEdges::wrappingSeeds);
-        Edges.promise(35, "how many RIDERS (what 0), the fewest (1; 0 without NIGHTS), NIGHTS (2)", SnowEdges::withoutNights);
+        Edges.terms(4, 35, "how many RIDERS can be HOME, together; the fewest in one; NIGHTS in which all can",
+            SnowEdges::nightsOfAll);
+        Edges.terms(4, 35, "(an int that wraps); a DRAW of n is its bits 16 to 30 MOD n then",
+            SnowEdges::wrappingSeeds);
+        Edges.promise(35, "how many RIDERS (what 0), the fewest (1; 0 without NIGHTS), NIGHTS (2)",
+            SnowEdges::withoutNights);
         Edges.promise(35, "NoSuchElementException: another what", SnowEdges::wrongYears);
         Edges.promise(35, "IllegalArgumentException (behind that): n", SnowEdges::wrongNights);
     }
@@ -296,7 +302,8 @@ final class SnowEdges {
 
     /** The rider is home by one moon alone, dry or wet. */
     private static WingTrams byMoon(int moon) {
-        return Check.told("roof 0;roof 0;flight 0 1 1;tawny 57 0 1;dawn 60;rider 0 1 0 0;hunts 30*(not moon=" + moon + ");");
+        return Check.told("roof 0;roof 0;flight 0 1 1;tawny 57 0 1;dawn 60;rider 0 1 0 0;hunts 30*(not moon="
+            + moon + ");");
     }
 
     private static void firstNight() {
@@ -404,7 +411,8 @@ final class SnowEdges {
         Check.same("60", 60, Check.told(RIDE + "tawny 0 0 1;dawn 72;").late(0));
         Check.same("no more than 60", 60, Check.told(RIDE + "tawny 0 0 1;dawn 600;").late(0));
         // From 55 to 59 on it comes behind dawn, from 60 on it is there sooner, in another hour.
-        Check.same("the greatest", 30, Check.told(RIDE.replace("hunts 2", "hunts 30*(hour=0)") + "tawny 54 0 1;dawn 94;").late(0));
+        Check.same("the greatest", 30, Check.told(RIDE.replace("hunts 2", "hunts 30*(hour=0)") + "tawny 54 0 1;"
+            + "dawn 94;").late(0));
     }
 
     private static void above300() {
@@ -422,7 +430,8 @@ final class SnowEdges {
         Check.same("as many", 48, Check.told(city).late(0));
         Check.same("one more from 8 on", 48, Check.told(city + "rider 0 1 10 0;").late(0));
         Check.same("as many by another one", 60, Check.told(city + "tawny 20 0 1;").late(0));
-        Check.same("one less from 11 on", 10, Check.told(city + "roof 0;flight 1 2 10;tawny 20 1 2;rider 0 2 0 0;").late(0));
+        Check.same("one less from 11 on", 10, Check.told(city + "roof 0;flight 1 2 10;tawny 20 1 2;"
+            + "rider 0 2 0 0;").late(0));
     }
 
     private static void lateOfNests() {

@@ -736,6 +736,10 @@ final class TextEdges {
         Check.tell(x, LINKED + "tawny 0 0;rider 0 1 0 0;hunts 7;");
         Check.same("by another rule", 7, x.stop(0, 0, 2));
         Check.same("that is the only one", 17, x.fits());
+        Check.tell(x, TWO + "tawny 0 0;hunts not 5;");
+        Check.tell(x, TWO + "tawny 0 0;hunts 5;");
+        Check.same("by a shorter rule", 5, x.stop(0, 0, 2));
+        Check.tell(x, LINKED + "tawny 0 0;rider 0 1 0 0;hunts 7;");
         Check.same("nobody comes there", -1, x.home(0));
         Edges.noSuch("stop", i -> x.stop(0, i, 0), 1);
         Edges.noSuch("stop of an owl", owl -> x.stop(owl, 0, 0), 1);
