@@ -1,7 +1,9 @@
 import java.io.IOException;
 import java.nio.file.Files;
 import java.nio.file.Path;
+import java.util.ArrayList;
 import java.util.LinkedHashMap;
+import java.util.List;
 import java.util.Map;
 import java.util.regex.Matcher;
 import java.util.regex.Pattern;
@@ -28,6 +30,23 @@ final class Document {
         lines.forEach((name, text) -> parts.put(name, plain(text.toString())));
         parts.remove("");
         return parts;
+    }
+
+    /** The lines of the public face, without the blanks around them and the last brace. */
+    static List<String> face() {
+        List<String> lines = new ArrayList<>();
+        boolean inside = false;
+        for (String line : readLines()) {
+            if (line.startsWith("```")) {
+                if (inside) {
+                    return lines;
+                }
+                inside = line.equals("```java");
+            } else if (inside && !line.isBlank() && !line.equals("}")) {
+                lines.add(line.trim());
+            }
+        }
+        return lines;
     }
 
     private static String name(Matcher head) {

@@ -27,6 +27,7 @@ public final class LanguageTest {
         }
         Check.same("classes", true, WingTrams.class.getDeclaredClasses().length < 12);
         List<String> lines = Files.readAllLines(Path.of("src/main/java/WingTrams.java"));
+        printedFace(lines);
         words(lines);
         lengths(lines);
         objects(lines);
@@ -64,6 +65,18 @@ public final class LanguageTest {
         Check.same("constructors", 1, WingTrams.class.getDeclaredConstructors().length);
         Check.same("public", Modifier.PUBLIC | Modifier.FINAL, WingTrams.class.getModifiers());
         fields(WingTrams.class);
+    }
+
+    /** That what the document prints as the public face stands in the source, word by word. */
+    private static void printedFace(List<String> lines) {
+        String source = String.join(" ", lines).replaceAll("\\s+", " ");
+        List<String> face = Document.face();
+        for (String line : face) {
+            String due = line.endsWith(");") || line.contains(" throws ") ? line.replace(";", " {") : line;
+            Check.same("in the source: " + line, true, source.contains(due));
+        }
+        // The import, the class, its constant and its constructor stand ahead of the methods.
+        Check.same("lines of the face", 4 + FACE.length, face.size());
     }
 
     private static void inside(Class<?> inner) {
