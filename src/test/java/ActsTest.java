@@ -177,9 +177,9 @@ public final class ActsTest {
     /** Acts of all kinds, of which the first ones are dropped; roofs and owls take turns. */
     private static void mixedActs() {
         WingTrams x = Check.told(CITY);
-        int[] grains = new int[75];
-        int[] minutes = new int[75];
-        for (int i = 0; i < 75; i++) {
+        int[] grains = new int[50];
+        int[] minutes = new int[50];
+        for (int i = 0; i < 50; i++) {
             grains[i] = 100 * x.roof(0, 0) + x.roof(1, 0);
             minutes[i] = 1000 * x.owl(0, 1) + x.owl(1, 1);
             if (i % 3 == 0) {
@@ -190,8 +190,8 @@ public final class ActsTest {
                 x.moon(i % 8);
             }
         }
-        for (int i = 74; i >= 35; i--) {
-            Check.same("left", i - 35, x.undo());
+        for (int i = 49; i >= 10; i--) {
+            Check.same("left", i - 10, x.undo());
             Check.same("grain ahead of " + i, grains[i], 100 * x.roof(0, 0) + x.roof(1, 0));
             Check.same("minutes ahead of " + i, minutes[i], 1000 * x.owl(0, 1) + x.owl(1, 1));
         }

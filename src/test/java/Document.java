@@ -8,10 +8,10 @@ import java.util.Map;
 import java.util.regex.Matcher;
 import java.util.regex.Pattern;
 
-/** ../shared/DOC.md by its parts: "Terms 1" to "Terms 4" and "Promise 1" to "Promise 42". */
+/** ../shared/DOC.md by its parts: "What it is", "Terms 1" to "Terms 4" and "Promise 1" to "Promise 42". */
 final class Document {
     private static final Path FILE = Path.of("../shared/DOC.md");
-    private static final Pattern HEAD = Pattern.compile("^(?:==== (\\d+)\\.|## Promise (\\d+):|(## |# )).*");
+    private static final Pattern HEAD = Pattern.compile("^(?:==== (\\d+)\\.|## Promise (\\d+):|## (What it is)$|## |# ).*");
 
     private Document() {
     }
@@ -53,7 +53,10 @@ final class Document {
         if (head.group(1) != null) {
             return "Terms " + head.group(1);
         }
-        return head.group(2) != null ? "Promise " + head.group(2) : "";
+        if (head.group(2) != null) {
+            return "Promise " + head.group(2);
+        }
+        return head.group(3) != null ? head.group(3) : "";
     }
 
     private static Iterable<String> readLines() {

@@ -13,6 +13,11 @@ final class Edges {
     private Edges() {
     }
 
+    /** A sentence ahead of the terms. */
+    static void intro(int promise, String sentence, Runnable test) {
+        edge("What it is", "Promise " + promise + ", by the first lines, \"" + sentence + "\"", sentence, test);
+    }
+
     /** A sentence of the terms, and the promise whose call shows whether it holds. */
     static void terms(int number, int promise, String sentence, Runnable test) {
         edge("Terms " + number, "Promise " + promise + ", by Terms " + number + ", \"" + sentence + "\"", sentence,
@@ -41,7 +46,7 @@ final class Edges {
         for (String part : DOCUMENT.keySet()) {
             Check.same("edges of " + part, true, PARTS.contains(part));
         }
-        Check.same("parts of the document", 4 + 42, DOCUMENT.size());
+        Check.same("parts of the document", 1 + 4 + 42, DOCUMENT.size());
         System.out.println(TOLD.size() + " sentences");
         Check.end();
     }

@@ -1,4 +1,4 @@
-/** For each sentence of the document that names a boundary case the test that is its own. */
+/** For each sentence of the document the test that is its own. */
 public final class EdgesTest {
     public static void main(String[] args) {
         TextEdges.all();
@@ -6,6 +6,7 @@ public final class EdgesTest {
         ActEdges.all();
         RideEdges.all();
         SnowEdges.all();
+        PlainEdges.all();
         Edges.end();
     }
 }

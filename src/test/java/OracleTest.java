@@ -2,11 +2,14 @@ import java.util.function.IntSupplier;
 
 /** All calls by chance, from fixed seeds, each answer against the one of a second program. */
 public final class OracleTest {
-    private static final int CITIES = 500;
-    private static final int CALLS = 250;
+    private static final int CITIES = 280;
+    /** An object is used for at most 512 calls; telling a city makes 37 of them, looking at a row 13. */
+    private static final int CALLS = 512;
+    private static final int CALLS_AT_ONCE = 37;
     private static final int TEXTS = 6000;
 
     private static long seed = 1;
+    private static int calls;
 
     public static void main(String[] args) {
         for (int i = 0; i < TEXTS; i++) {
@@ -143,12 +146,17 @@ public final class OracleTest {
     private static void run(int i) {
         WingTrams x = new WingTrams();
         Oracle y = new Oracle();
+        calls = 0;
         tellBoth(x, y, "run " + i);
-        for (int call = 0; call < CALLS; call++) {
-            if (draw(150) == 0) {
+        while (calls < CALLS - CALLS_AT_ONCE) {
+            if (draw(250) == 0) {
                 tellBoth(x, y, "run " + i + " again");
+            } else {
+                call(x, y, "run " + i + " call " + calls + " ");
             }
-            call(x, y, "run " + i + " call " + call + " ");
+        }
+        while (calls < CALLS) {
+            both("run " + i + ", the last calls", () -> y.count(10), () -> x.count(10));
         }
     }
 
@@ -158,6 +166,7 @@ public final class OracleTest {
         int n = rarely() ? text.length() - draw(30) : text.length();
         int due = y.city(n);
         Check.same(what + " city of " + text, due, x.city(n));
+        calls += (text.length() + 19) / 20 + 2;
     }
 
     private static int owlBy(Oracle y) {
@@ -177,6 +186,7 @@ public final class OracleTest {
     }
 
     private static void both(String what, IntSupplier due, IntSupplier got) {
+        calls++;
         Check.same(what, answer(due), answer(got));
     }
 
@@ -230,6 +240,7 @@ public final class OracleTest {
                 if (draw(3) == 0) {
                     y.image();
                     x.image();
+                    calls++;
                 }
                 break;
             default:
@@ -310,6 +321,7 @@ public final class OracleTest {
                 if (draw(6) == 0) {
                     y.forget();
                     x.forget();
+                    calls++;
                 }
                 break;
             case 35: both(at + "fits", y::fits, x::fits); break;
